@@ -40,7 +40,6 @@ public final class StampViews {
     private final Bench bench;
     private final Game game;
     private final Draws draws;
-    private Plan spare;
     private boolean open;
     private int lastTrouble;
     private int lastFault;
@@ -56,7 +55,6 @@ public final class StampViews {
         bench = new Bench(desk);
         game = new Game(desk);
         draws = new Draws(desk);
-        spare = new Plan();
         open = false;
         lastTrouble = FINE;
         lastFault = 0;
@@ -81,7 +79,7 @@ public final class StampViews {
         if (n < 0 || n > tape.filled) {
             return refuse(BAD_NUMBER);
         }
-        boolean faultless = reader.readText(spare, n);
+        boolean faultless = reader.readText(n);
         tape.filled = 0;
         lastFault = reader.fault;
         lastPlace = reader.place;
@@ -631,8 +629,8 @@ public final class StampViews {
 
     /** The plan read last becomes the office's; the one before is kept to be written over, so that none is made anew. */
     private void openOffice() {
-        Plan read = spare;
-        spare = desk.plan;
+        Plan read = reader.plan;
+        reader.plan = desk.plan;
         desk.plan = read;
         desk.now.copyFrom(reader.start.cells);
         past.forget();
@@ -667,6 +665,7 @@ public final class StampViews {
         int sort;
         int from;
         int to;
+        long word;
 
         boolean hasRoom() {
             return filled + FED_AT_ONCE <= BYTES;
@@ -695,28 +694,30 @@ public final class StampViews {
             to = from;
             if (from >= length) {
                 sort = END;
-            } else if (isLetter(bytes[from])) {
-                takeLetters();
-            } else if (isDigit(bytes[from])) {
-                takeDigits();
-            } else {
-                to = from + 1;
-                sort = bytes[from] == ';' ? SEMICOLON : bytes[from] == ',' ? COMMA : NO_TOKEN;
+                word = 0;
+                return;
             }
-        }
-
-        private void takeLetters() {
-            while (to < length && isLetter(bytes[to])) {
+            sort = sortAt(from);
+            to = from + 1;
+            while ((sort == WORD || sort == WHOLE) && to < length && sortAt(to) == sort) {
                 to++;
             }
-            sort = to - from <= LONGEST_WORD ? WORD : NO_TOKEN;
+            if (sort == WORD && to - from > LONGEST_WORD || sort == WHOLE && to - from > LONGEST_WHOLE) {
+                sort = NO_TOKEN;
+            }
+            word = sort == WORD ? spelling() : 0;
         }
 
-        private void takeDigits() {
-            while (to < length && isDigit(bytes[to])) {
-                to++;
+        /** The sort of the TOKEN to which a byte belongs. */
+        private int sortAt(int i) {
+            int b = bytes[i];
+            if (b >= 'a' && b <= 'z') {
+                return WORD;
             }
-            sort = to - from <= LONGEST_WHOLE ? WHOLE : NO_TOKEN;
+            if (b >= '0' && b <= '9') {
+                return WHOLE;
+            }
+            return b == ';' ? SEMICOLON : b == ',' ? COMMA : NO_TOKEN;
         }
 
         /** Only asked of a WHOLE, whose three digits at most keep the value below 1000. */
@@ -728,55 +729,35 @@ public final class StampViews {
             return value;
         }
 
-        /** Which of these words, parted by single blanks, the TOKEN is, or NONE. */
-        int choice(String words) {
-            if (sort != WORD) {
-                return NONE;
+        /** The letters of a WORD as one number, five bits each: eight of them have room in it. */
+        private long spelling() {
+            long letters = 0;
+            for (int i = from; i < to; i++) {
+                letters = letters << 5 | bytes[i] & 31;
             }
+            return letters;
+        }
+
+        /** Spells as spelling() does, words parted by single blanks. */
+        static void spellAll(String words, long[] spellings) {
             int number = 0;
-            int first = 0;
-            for (int i = 0; i <= words.length(); i++) {
-                if (i == words.length() || words.charAt(i) == ' ') {
-                    if (isSpelt(words, first, i)) {
-                        return number;
-                    }
+            for (int i = 0; i < words.length() && number < spellings.length; i++) {
+                if (words.charAt(i) == ' ') {
                     number++;
-                    first = i + 1;
+                } else {
+                    spellings[number] = spellings[number] << 5 | words.charAt(i) & 31;
+                }
+            }
+        }
+
+        /** Which of these words the TOKEN is, or NONE; what is no WORD is spelt 0, as none of them is. */
+        int choice(long[] words) {
+            for (int i = 0; i < words.length; i++) {
+                if (words[i] == word) {
+                    return i;
                 }
             }
             return NONE;
-        }
-
-        private boolean isSpelt(String words, int first, int behind) {
-            if (to - from != behind - first) {
-                return false;
-            }
-            for (int i = first; i < behind; i++) {
-                if (words.charAt(i) != bytes[from + i - first]) {
-                    return false;
-                }
-            }
-            return true;
-        }
-
-        boolean isSameWord(int otherFrom, int otherTo) {
-            if (to - from != otherTo - otherFrom) {
-                return false;
-            }
-            for (int i = 0; i < to - from; i++) {
-                if (bytes[from + i] != bytes[otherFrom + i]) {
-                    return false;
-                }
-            }
-            return true;
-        }
-
-        private static boolean isLetter(int b) {
-            return b >= 'a' && b <= 'z';
-        }
-
-        private static boolean isDigit(int b) {
-            return b >= '0' && b <= '9';
         }
     }
 
@@ -972,7 +953,13 @@ public final class StampViews {
         static final int HAND = 5;
         static final int WANT = 6;
         static final int PRINT = 7;
-        static final String NOT_NAMES = "office mark paper stamp rule hand want print not";
+        static final int NOT = 8;
+
+        static final int BIRDS = 0;
+        static final int WORTH = 1;
+        static final int INK = 2;
+        static final int ELSE = 3;
+        static final int MOODY = 4;
 
         static final int FORM = 1;
         static final int UNTOLD = 2;
@@ -984,12 +971,15 @@ public final class StampViews {
         static final int NAMES = MARKS + PAPERS + STAMPS + HANDS;
 
         final Tape tape;
+        final long[] notNames = new long[9];
+        final long[] fillers = new long[5];
+        final long[] verdicts = new long[VERDICTS];
+        final long[] kinds = new long[4];
         final Now start = new Now();
-        final int[] nameFrom = new int[NAMES];
-        final int[] nameTo = new int[NAMES];
+        final long[] nameWord = new long[NAMES];
         final int[] nameSort = new int[NAMES];
         final int[] nameNumber = new int[NAMES];
-        Plan plan;
+        Plan plan = new Plan();
         int names;
         boolean officeTold;
         int fault;
@@ -997,11 +987,13 @@ public final class StampViews {
 
         Reader(Tape tape) {
             this.tape = tape;
-            this.plan = null;
+            Tape.spellAll("office mark paper stamp rule hand want print not", notNames);
+            Tape.spellAll("birds worth ink else moody", fillers);
+            Tape.spellAll("no yes faint", verdicts);
+            Tape.spellAll("straight kind stern cross", kinds);
         }
 
-        boolean readText(Plan target, int n) {
-            plan = target;
+        boolean readText(int n) {
             plan.empty();
             start.empty();
             names = 0;
@@ -1023,7 +1015,7 @@ public final class StampViews {
         }
 
         private boolean readLine() {
-            int sort = tape.choice(NOT_NAMES);
+            int sort = tape.choice(notNames);
             if (sort < OFFICE || sort > PRINT) {
                 return fail(FORM);
             }
@@ -1078,7 +1070,7 @@ public final class StampViews {
 
         private boolean readOffice() {
             officeTold = true;
-            if (!takeWord("birds")) {
+            if (!takeFiller(BIRDS)) {
                 return false;
             }
             plan.birds = takeWhole(100);
@@ -1095,7 +1087,7 @@ public final class StampViews {
 
         private boolean readPaper() {
             int p = plan.papers;
-            if (!takeNewName(PAPER, p) || !takeWord("worth")) {
+            if (!takeNewName(PAPER, p) || !takeFiller(WORTH)) {
                 return false;
             }
             plan.worth[p] = takeWhole(99);
@@ -1110,14 +1102,14 @@ public final class StampViews {
 
         private boolean readStamp() {
             int s = plan.stamps;
-            if (!takeNewName(STAMP, s) || !takeWord("ink")) {
+            if (!takeNewName(STAMP, s) || !takeFiller(INK)) {
                 return false;
             }
             start.setInk(s, takeWhole(MOST_INK));
-            if (fault != 0 || !takeWord("else")) {
+            if (fault != 0 || !takeFiller(ELSE)) {
                 return false;
             }
-            plan.otherwise[s] = takeVerdict();
+            plan.otherwise[s] = takeChoice(verdicts);
             if (fault != 0) {
                 return false;
             }
@@ -1133,7 +1125,7 @@ public final class StampViews {
                 return false;
             }
             plan.ruleNot[k] = 0;
-            if (tape.choice("not") == 0) {
+            if (tape.choice(notNames) == NOT) {
                 plan.ruleNot[k] = 1;
                 tape.advance();
             }
@@ -1141,7 +1133,7 @@ public final class StampViews {
             if (fault != 0) {
                 return false;
             }
-            start.setVerdict(k, takeVerdict());
+            start.setVerdict(k, takeChoice(verdicts));
             plan.rules++;
             return fault == 0;
         }
@@ -1151,8 +1143,8 @@ public final class StampViews {
             if (!takeNewName(HAND, h)) {
                 return false;
             }
-            plan.kind[h] = takeChoice("straight kind stern cross");
-            if (fault != 0 || !takeWord("moody")) {
+            plan.kind[h] = takeChoice(kinds);
+            if (fault != 0 || !takeFiller(MOODY)) {
                 return false;
             }
             plan.moody[h] = takeWhole(100);
@@ -1169,7 +1161,7 @@ public final class StampViews {
                 return fail(AGAIN);
             }
             tape.advance();
-            plan.want[p] = takeVerdict();
+            plan.want[p] = takeChoice(verdicts);
             plan.wants++;
             return fault == 0;
         }
@@ -1184,7 +1176,7 @@ public final class StampViews {
             if (fault != 0) {
                 return false;
             }
-            plan.printVerdict[i] = takeVerdict();
+            plan.printVerdict[i] = takeChoice(verdicts);
             plan.prints++;
             return fault == 0;
         }
@@ -1208,15 +1200,15 @@ public final class StampViews {
             return bits;
         }
 
-        private boolean takeWord(String word) {
-            return takeChoice(word) == 0;
+        private boolean takeFiller(int filler) {
+            if (tape.choice(fillers) != filler) {
+                return fail(FORM);
+            }
+            tape.advance();
+            return true;
         }
 
-        private int takeVerdict() {
-            return takeChoice("no yes faint");
-        }
-
-        private int takeChoice(String words) {
+        private int takeChoice(long[] words) {
             int number = tape.choice(words);
             if (number < 0) {
                 fail(FORM);
@@ -1241,14 +1233,13 @@ public final class StampViews {
         }
 
         private boolean takeNewName(int sort, int number) {
-            if (tape.sort != Tape.WORD || tape.choice(NOT_NAMES) >= 0) {
+            if (tape.sort != Tape.WORD || tape.choice(notNames) >= 0) {
                 return fail(FORM);
             }
             if (findName() >= 0 || names >= NAMES) {
                 return fail(AGAIN);
             }
-            nameFrom[names] = tape.from;
-            nameTo[names] = tape.to;
+            nameWord[names] = tape.word;
             nameSort[names] = sort;
             nameNumber[names] = number;
             names++;
@@ -1266,7 +1257,7 @@ public final class StampViews {
 
         /** Stays at the name, since a FAULT of its own may still be found there. */
         private int findOldName(int sort) {
-            if (tape.sort != Tape.WORD || tape.choice(NOT_NAMES) >= 0) {
+            if (tape.sort != Tape.WORD || tape.choice(notNames) >= 0) {
                 fail(FORM);
                 return NONE;
             }
@@ -1280,7 +1271,7 @@ public final class StampViews {
 
         private int findName() {
             for (int i = 0; i < names; i++) {
-                if (tape.isSameWord(nameFrom[i], nameTo[i])) {
+                if (nameWord[i] == tape.word) {
                     return i;
                 }
             }
@@ -1516,8 +1507,9 @@ public final class StampViews {
 
         private int pairsThatPrint(int p, int verdict) {
             int bits = 0;
+            int marks = desk.now.marksOf(p);
             for (int s = 0; s < desk.plan.stamps; s++) {
-                int said = desk.sayOn(s, p);
+                int said = desk.sayOf(s, marks);
                 for (int h = 0; h < desk.plan.hands && inkLeft[s] > 0; h++) {
                     if (desk.printBy(h, said) == verdict) {
                         bits |= 1 << s * HANDS + h;
@@ -1794,7 +1786,7 @@ public final class StampViews {
         }
 
         int gain(int s, int p) {
-            int said = desk.sayOn(s, p);
+            int said = desk.sayOf(s, desk.now.marksOf(p));
             int worth = desk.plan.worth[p];
             return said == YES ? worth : said == FAINT ? worth / 2 : 0;
         }

@@ -225,6 +225,7 @@ public final class StampViewsPromises {
     due("the second paper is not there in a smaller office", tell(x, BARE), 1);
     due("no marks are left", x.paper(0, 1), 0);
     due("no want is left", x.paper(0, 2), -2);
+    for (int what = 1; what <= 10; what++) due("size " + what + " of the smaller one", x.size(what), what == 2 ? 1 : 0);
     refused(x, x.stamp(0, 0), 1);
     feedAll(x, BARE + "5;mark a");
     due("only the first n bytes", x.office(30), 1);
@@ -279,6 +280,9 @@ public final class StampViewsPromises {
     faulty("office birds 5;birds", 1, 15);
     faulty("office birds 5;mark mark", 1, 20);
     faulty("office birds 5;mark abcdefghi", 1, 20);
+    faulty("office birds 5;mark office", 1, 20);
+    faulty("office birds 5;want office", 1, 20);
+    faulty("office birds 5;want print", 1, 20);
     faulty("office birds 5;mark 5", 1, 20);
     faulty("office birds 5;mark a-", 1, 21);
     faulty("office birds 5;mark a,", 1, 21);
@@ -631,6 +635,9 @@ public final class StampViewsPromises {
     promise = 23;
     StampViews x = at(three(";print p h faint"));
     part("30 of 30, 30, 100", x.odds(0, false), x.odds(0, true), 3, 16);
+    x.says(9, 9);
+    x.odds(2, false);
+    due("trouble", x.trouble(), 0);
     part("100 of 30, 30, 100", x.odds(2, false), x.odds(2, true), 5, 8);
     StampViews y = at(three(";print p k yes;print p h faint"));
     part("50 by 30 of 50 by 30, 0, 50 by 100", y.odds(0, false), y.odds(0, true), 3, 13);
@@ -683,6 +690,7 @@ public final class StampViewsPromises {
     StampViews x = at("office birds 0;mark m;paper a worth 1,m;paper b worth 1;hand h cross moody 99;hand k kind moody 0;print a h no;print b k yes");
     due("yes for all; m: yes, else faint", x.laws(), 2);
     due("moods aside: a stern hand prints no faint", at(BARE + ";hand h stern moody 100;print p h faint").laws(), 0);
+    due("no for all", at(BARE + ";hand h straight moody 0;print p h no").laws(), 1);
     x.mark(1, 0, true);
     due("as papers are now: yes for all; m: yes, else two", x.laws(), 3);
     StampViews none = new StampViews();
@@ -695,6 +703,7 @@ public final class StampViewsPromises {
     due("p", x.lawSays(0), 6);
     due("q", x.lawSays(1), 1);
     due("r", x.lawSays(2), 7);
+    due("one law", at(BARE + ";hand h straight moody 0;print p h no").lawSays(0), 1);
     due("no laws", at(BARE + ";hand h stern moody 100;print p h faint").lawSays(0), 0);
     refused(x, x.lawSays(3), 1);
     refused(x, x.lawSays(-1), 1);
@@ -752,6 +761,9 @@ public final class StampViewsPromises {
     due("with none to judge, as ahead", y.good(2), 0);
     StampViews z = at("office birds 0;paper p worth 1;stamp a ink 0 else faint;stamp b ink 0 else no");
     due("faint is neither", z.good(1), 2);
+    StampViews w = at("office birds 0;mark m;mark n;paper p worth 1;stamp a ink 0 else faint,m;stamp b ink 0 else faint,n;stamp c ink 0 else no,n;"
+        + "rule b m yes;rule c m no;rule a n no");
+    due("a: one yes, one no: as ahead", w.good(1), 1);
     StampViews none = new StampViews();
     refused(none, none.good(99), 1);
   }
@@ -793,6 +805,7 @@ public final class StampViewsPromises {
     promise = 35;
     due("60, 40, 30", at(TOWN).clerks(), 30);
     due("one that says no", at(BARE + ";stamp a ink 0 else yes;stamp b ink 0 else no").clerks(), 0);
+    due("the first", at(BARE + ";stamp a ink 0 else faint;stamp b ink 0 else yes").clerks(), 2);
     StampViews x = at(BARE);
     refused(x, x.clerks(), 6);
     StampViews none = new StampViews();
@@ -803,6 +816,7 @@ public final class StampViewsPromises {
     promise = 36;
     due("20, 0, 4", at(TOWN).applicants(), 20);
     due("one that says faint", at(BARE + ";stamp a ink 0 else yes;stamp b ink 0 else faint").applicants(), 2);
+    due("nothing", at(BARE + ";stamp a ink 0 else no;stamp b ink 0 else yes").applicants(), 0);
     StampViews x = at(BARE);
     refused(x, x.applicants(), 6);
     StampViews none = new StampViews();
@@ -813,6 +827,7 @@ public final class StampViewsPromises {
     promise = 37;
     due("u", at(TOWN).clerkPicks(), 2);
     due("the first of like ones", at(BARE + ";stamp a ink 0 else yes;stamp b ink 0 else no;stamp c ink 0 else no").clerkPicks(), 1);
+    due("the very first", at(BARE + ";stamp a ink 0 else faint;stamp b ink 0 else yes;stamp c ink 0 else faint").clerkPicks(), 0);
     StampViews x = at(BARE);
     refused(x, x.clerkPicks(), 6);
     StampViews none = new StampViews();
@@ -873,6 +888,8 @@ public final class StampViewsPromises {
     // Draws by 0: 74, 5624, 28652, 51790 (mood 90), then 17641, 12409, 13231, 9444 (mood 44), without a faint one between.
     due("in its mood", at(one("no", 91, 0)).presses(2, 0, 1), 1);
     due("not in its mood", at(one("no", 90, 0)).presses(0, 0, 1), 1);
+    StampViews twice = at(one("no", 90, 0));
+    due("counted anew", twice.presses(0, 0, 1) + 10 * twice.presses(0, 0, 1), 11);
     due("the second is", at(one("no", 45, 0)).presses(2, 0, 2), 1);
     due("the second isn't", at(one("no", 44, 0)).presses(2, 0, 2), 0);
     due("ink is no matter and stays", x.stamp(2, 0), 0);
@@ -1090,6 +1107,9 @@ public final class StampViewsPromises {
     StampViews x = at(TOWN);
     due("none", hasNoLed(x, 0) ? 1 : 0, 1);
     due("none in a new one", hasNoLed(new StampViews(), 0) ? 1 : 0, 1);
+    StampViews y = at(TOWN);
+    y.press(0, 0, 0);
+    due("the first paper", y.led(0), 0);
     x.press(1, 0, 2);
     x.press(0, 0, 1);
     due("first by numbers", x.led(0), 1);
