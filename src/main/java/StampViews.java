@@ -18,7 +18,9 @@ public final class StampViews {
     private static final int RULES = 10;
     private static final int HANDS = 3;
     private static final int PRINTS = 4;
+    private static final int MOST_WORTH = 99;
     private static final int MOST_INK = 9;
+    private static final int MOST_IN_HUNDRED = 100;
     private static final int MOST_MONTHS = 20;
     private static final int MOST_PRESSES = 90;
     private static final int LAST_SEED = 65536;
@@ -1073,7 +1075,7 @@ public final class StampViews {
             if (!takeFiller(BIRDS)) {
                 return false;
             }
-            plan.birds = takeWhole(100);
+            plan.birds = takeWhole(MOST_IN_HUNDRED);
             return fault == 0;
         }
 
@@ -1090,7 +1092,7 @@ public final class StampViews {
             if (!takeNewName(PAPER, p) || !takeFiller(WORTH)) {
                 return false;
             }
-            plan.worth[p] = takeWhole(99);
+            plan.worth[p] = takeWhole(MOST_WORTH);
             if (fault != 0) {
                 return false;
             }
@@ -1147,7 +1149,7 @@ public final class StampViews {
             if (fault != 0 || !takeFiller(MOODY)) {
                 return false;
             }
-            plan.moody[h] = takeWhole(100);
+            plan.moody[h] = takeWhole(MOST_IN_HUNDRED);
             plan.hands++;
             return fault == 0;
         }
@@ -1800,7 +1802,7 @@ public final class StampViews {
         }
 
         private int leastFor(int p) {
-            int least = Integer.MAX_VALUE;
+            int least = MOST_WORTH;
             for (int s = 0; s < desk.plan.stamps; s++) {
                 least = Math.min(least, gain(s, p));
             }
@@ -1808,7 +1810,7 @@ public final class StampViews {
         }
 
         int leastOfMost() {
-            int least = Integer.MAX_VALUE;
+            int least = MOST_WORTH;
             for (int s = 0; s < desk.plan.stamps; s++) {
                 least = Math.min(least, mostBy(s));
             }

@@ -885,7 +885,7 @@ public final class StampViewsPromises {
     due("no", x.presses(0, 0, 1), 0);
     due("none at all", x.presses(2, 0, 0), 0);
     due("all of them", x.presses(0, 65536, 90) + x.presses(1, 65536, 90) + x.presses(2, 65536, 90), 90);
-    // Draws by 0: 74, 5624, 28652, 51790 (mood 90), then 17641, 12409, 13231, 9444 (mood 44), without a faint one between.
+    // Draws by 0: 74, 5624, 28652, 51790 (mood 90), then 17641, 12409, 13231, 9344 (mood 44), without a faint one between.
     due("in its mood", at(one("no", 91, 0)).presses(2, 0, 1), 1);
     due("not in its mood", at(one("no", 90, 0)).presses(0, 0, 1), 1);
     StampViews twice = at(one("no", 90, 0));
