@@ -300,6 +300,19 @@ public final class StampViewsBounds {
     Due.fine("undone", x, x.kept(), 1);
     Due.fine("no want", x = Due.at(Due.BARE + ";stamp s ink 9 else yes;hand h kind moody 0"), x.kept(), 0);
     Due.fine("by nobody", x, x.keptBy(0), -2);
+    StampViews smaller = new StampViews();
+    for (int papers = 5; papers >= 1; papers--) {
+      Due.tell(smaller, papersThatWant(papers, "yes", "stamp s ink 1 else yes" + two));
+      Due.fine("one of " + papers, smaller, smaller.kept(), 1);
+      for (int p = 0; p < papers; p++) Due.fine("paper " + p + " of " + papers, smaller, smaller.keptBy(p), p == 0 ? 0 : -2);
+    }
+    StampViews none = Due.at(papersThatWant(5, "yes", "stamp s ink 9 else yes" + two));
+    none.kept();
+    Due.tell(none, "office birds 0;mark m;paper a worth 1;paper b worth 1,m;stamp s ink 1 else yes;stamp t ink 1 else no;rule s m no;"
+        + "hand h straight moody 0;want a yes;want b yes");
+    Due.fine("behind a larger office", none, none.kept(), 1);
+    Due.fine("the first paper", none, none.keptBy(0), 0);
+    Due.fine("not the second", none, none.keptBy(1), -2);
     Due.refused("no office", Due::fresh, StampViews::kept, 1);
     Due.refused("no office", Due::fresh, StampViews::toFill, 1);
     Due.refused("no such paper", Due::town, z -> z.keptBy(3), 1);
@@ -348,6 +361,18 @@ public final class StampViewsBounds {
     StampViews last = Due.at(papersThatWant(1, "no", "stamp s ink 9 else yes;stamp t ink 9 else yes;stamp u ink 9 else yes;stamp v ink 0 else no"
         + ";hand f straight moody 0"));
     Due.fine("the last stamp", last, last.toFill(), 3);
+    // s says yes, no, yes, yes, faint; t says faint, no, faint, no, yes. By ink 1, 2 they keep b and d (t, h) and e (s, g);
+    // with one ink more s can't help, as a, b, c and t's d all need h; with two more: d and e (s, g), a (s, h), b (t, h).
+    StampViews two = Due.at(ZERO + "mark v;mark w;mark x;mark y;mark z;paper a worth 1,v;paper b worth 1,w;paper c worth 1,x;paper d worth 1,y;"
+        + "paper e worth 1,z;stamp s ink 1 else yes;stamp t ink 2 else faint;rule s w no;rule s z faint;rule t w no;rule t y no;rule t z yes;"
+        + "hand g cross moody 0;hand h straight moody 0;want a yes;want b no;want c yes;want d no;want e faint");
+    Due.fine("three are kept", two, two.kept(), 3);
+    Due.fine("two ink more would help, one doesn't", two, two.toFill(), -2);
+    two.fill(0, 2);
+    Due.fine("three still", two, two.kept(), 3);
+    Due.fine("now one does", two, two.toFill(), 0);
+    two.fill(0, 3);
+    Due.fine("four", two, two.kept(), 4);
   }
 
   // ---- words
@@ -447,6 +472,9 @@ public final class StampViewsBounds {
     Due.fraction("above 2 to the 32nd", x.next(0, 0, 2, false), x.next(0, 0, 2, true), 10_000_000_003L, 10_000_000_300L);
     Due.fraction("two times 99 of that", x.next(0, 0, 1, false), x.next(0, 0, 1, true), 99, 5_000_000_150L);
     Due.fraction("once 99", x.next(0, 0, 0, false), x.next(0, 0, 0, true), 99, 10_000_000_300L);
+    StampViews least = Due.at(ZERO + "paper p worth 1;stamp s ink 0 else yes;hand f straight moody 1" + ";print p f faint".repeat(4));
+    Due.fraction("once in 100 to the fourth, and so by the only one", least.odds(0, false), least.odds(0, true), 1, 1);
+    Due.fraction("99 of 100 next", least.next(0, 0, 1, false), least.next(0, 0, 1, true), 99, 100);
     StampViews half = Due.at(ZERO + "paper p worth 1;stamp s ink 0 else yes;stamp t ink 0 else faint;hand f straight moody 50;print p f faint");
     Due.fraction("50 of 150", half.odds(0, false), half.odds(0, true), 1, 3);
     Due.fraction("100 of 150", half.odds(1, false), half.odds(1, true), 2, 3);
@@ -867,26 +895,32 @@ public final class StampViewsBounds {
     else x.mark(1, i - 26, false);
   }
 
+  /** All that those acts change, in few calls, so that an object stays below its 512. */
+  private static String changed(StampViews x) {
+    return x.paper(0, 1) + " " + x.paper(1, 1) + " " + x.paper(0, 3) + " " + x.paper(1, 3) + " " + x.stamp(0, 0) + " " + x.rule(0, 3)
+        + " " + x.size(8);
+  }
+
   private static void sixteenAreKept() {
     Due.part("terms III, 16 are kept");
     for (int acts : new int[] {0, 1, 15, 16, 17, 18, 30}) {
       StampViews x = Due.at(MANY_MARKS);
       String[] ahead = new String[31];
       for (int i = 0; i < acts; i++) {
-        ahead[i] = Due.now(x);
+        ahead[i] = changed(x);
         act(x, i);
         Due.is("that can be undone", x.size(9), Math.min(16, i + 1));
       }
       int kept = Math.min(16, acts);
       for (int i = 0; i < kept; i++) {
         Due.done("undo " + i + " of " + acts, x, x.undo());
-        Due.same("as ahead of act " + (acts - 1 - i), Due.now(x), ahead[acts - 1 - i]);
+        Due.same("as ahead of act " + (acts - 1 - i), changed(x), ahead[acts - 1 - i]);
         Due.is("that can be undone", x.size(9), kept - 1 - i);
       }
-      String last = Due.now(x);
+      String last = changed(x);
       Due.is("no more", Due.asLong(x.undo()), 0);
       Due.is("by 6", x.trouble(), 6);
-      Due.same("it stays", Due.now(x), last);
+      Due.same("it stays", changed(x), last);
       Due.is("none that can be undone", x.size(9), 0);
     }
   }
@@ -1017,29 +1051,29 @@ public final class StampViewsBounds {
   private static void ledOrThrows() {
     Due.part("promise 51");
     StampViews x = Due.at(Due.FULL.replace("ink 0", "ink 9").replace("ink 1", "ink 9").replace("ink 5", "ink 9"));
-    for (int i : new int[] {MIN, -1, 0, 1, MAX}) Due.is("none yet", Due.led(x, i), -1);
+    for (int i : new int[] {MIN, -1, 0, 1, MAX}) Due.is("none yet", Due.led(x, i), Due.THROWS);
     for (int k = 0; k < 10; k++) x.carve(k, 1);
     for (int p = 4; p >= 0; p--) {
       x.press(0, 0, p);
       Due.is("so many", Due.led(x, 4 - p), 4);
-      Due.is("no more", Due.led(x, 5 - p), -1);
+      Due.is("no more", Due.led(x, 5 - p), Due.THROWS);
       Due.is("the first by numbers", Due.led(x, 0), p);
     }
     for (int i = 0; i < 5; i++) Due.is("all five", Due.led(x, i), i);
-    for (int i : new int[] {MIN, -1, 5, 6, MAX}) Due.is("none such", Due.led(x, i), -1);
+    for (int i : new int[] {MIN, -1, 5, 6, MAX}) Due.is("none such", Due.led(x, i), Due.THROWS);
     x.press(0, 2, 2);
     Due.is("no is latest on the third", Due.led(x, 2), 3);
-    Due.is("four", Due.led(x, 4), -1);
+    Due.is("four", Due.led(x, 4), Due.THROWS);
     x.says(9, 9);
     Due.led(x, 9);
     Due.is("a throw leaves trouble", x.trouble(), 1);
     x.says(0, 0);
     Due.led(x, 9);
     Due.is("0, too", x.trouble(), 0);
-    Due.is("no office", Due.led(new StampViews(), 0), -1);
+    Due.is("no office", Due.led(new StampViews(), 0), Due.THROWS);
     StampViews beside = Due.at(FIVE_MARKS + "paper p worth 1;paper q worth 1;paper r worth 1;paper s worth 1;paper t worth 1,a;"
         + "stamp u ink 1 else no;hand h straight moody 0");
-    Due.is("marks and ink of 1 are no yes", Due.led(beside, 0), -1);
+    Due.is("marks and ink of 1 are no yes", Due.led(beside, 0), Due.THROWS);
     String before = Due.now(x);
     Due.led(x, -1);
     Due.same("all stays", Due.now(x), before);
@@ -1113,7 +1147,7 @@ public final class StampViewsBounds {
   private static void call512() {
     Due.part("the 512th call");
     StampViews x = Due.at(Due.BARE + ";mark m;stamp s ink 9 else yes;hand h kind moody 0");
-    int calls = 5;
+    int calls = 5; // four of feed, one of office
     for (int i = 0; calls < 509; calls++, i++) {
       Due.is("call " + calls, Due.asLong(x.mark(0, 0, i % 2 == 0)), 1);
     }

@@ -7,6 +7,8 @@ import java.nio.file.Files;
 import java.nio.file.Path;
 import java.util.Set;
 import java.util.TreeSet;
+import java.util.regex.Matcher;
+import java.util.regex.Pattern;
 
 /** The class shows the document's face and nothing else, and its source keeps to those rules that can be seen in a text. */
 public final class StampViewsFace {
@@ -136,6 +138,9 @@ public final class StampViewsFace {
     for (String word : new String[] {"catch", "finally", "synchronized", "assert ", "->", "::", "package ", "System.", "Random", "%=", "instanceof"}) {
       holds("without '" + word + "'", !text.contains(word));
     }
+    Set<String> library = Set.of("Math.max", "Math.min", "Integer.bitCount", "Long.bitCount");
+    Matcher used = Pattern.compile("\\b(?:Math|Integer|Long|String|Arrays|Character|Object|List)\\.\\w+").matcher(text);
+    while (used.find()) holds("in the list of the library: " + used.group(), library.contains(used.group()));
     holds("one import", text.indexOf("import java.util.NoSuchElementException;") == text.lastIndexOf("import "));
     int longest = 0;
     int from = 0;

@@ -333,6 +333,18 @@ public final class StampViewsTextBounds {
     for (String line : new String[] {"rule s", "rule s m", "rule s not", "rule s not m", "want p", "print p", "print p h"}) {
       faulty(1, told + line + "^");
     }
+    // The word ahead of the end isn't read twice, though it is one that must stand there.
+    faulty(1, HEAD + "paper worth^");
+    faulty(1, Due.BARE + ";stamp ink^");
+    for (String kind : KINDS) faulty(1, Due.BARE + ";hand " + kind + " ^");
+    for (String verdict : VERDICTS) {
+      faulty(1, HEAD + "paper " + verdict + " worth 5;want " + verdict + "^");
+      faulty(1, told + "mark " + verdict + ";rule s " + verdict + " ^");
+      faulty(1, told + "mark " + verdict + ";rule s not " + verdict + "^");
+      faulty(1, told + "hand " + verdict + " kind moody 0;print p " + verdict + "  ^");
+      faulty(1, told + "hand " + verdict + " kind moody 0;print p " + verdict + "^;");
+      faulty(1, told + "hand " + verdict + " kind moody 0;print p " + verdict + " ^5");
+    }
   }
 
   private static void everyByte() {
