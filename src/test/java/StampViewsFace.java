@@ -70,10 +70,27 @@ public final class StampViewsFace {
       int trouble()
       """;
 
+  /** What the interface says ahead of which calls. */
+  private static final String[][] HEADINGS = {
+    {"the office", "feed office fault where"},
+    {"now", "paper stamp hand rule says byRule saysOf prints sayers idleRules differ"},
+    {"wants", "kept keptBy toFill"},
+    {"words", "worded reword bestMark"},
+    {"a stranger", "odds likeliest next laws lawSays tryNext tryLeaves"},
+    {"judgement", "judges good settled steady"},
+    {"a clerk, an applicant", "has clerks applicants clerkPicks even"},
+    {"moods, draws", "sure mean presses birds printed"},
+    {"acts", "press carve mark fill undo image back"},
+    {"what is told", "led size trouble"},
+  };
+
   public static void main(String[] args) throws IOException {
+    String text = Files.readString(Path.of("src/main/java/StampViews.java"));
     face();
+    exceptions(text);
+    headings(text);
     insides();
-    source(Files.readString(Path.of("src/main/java/StampViews.java")));
+    source(text);
     System.out.println(passed + " passed, " + failed + " failed");
     if (failed != 0) System.exit(1);
   }
@@ -117,6 +134,36 @@ public final class StampViewsFace {
     for (Class<?> inside : c.getDeclaredClasses()) {
       for (Method m : inside.getDeclaredMethods()) holds("a name of its own: " + m.getName(), !names.contains(m.getName()));
     }
+  }
+
+  /** led alone says that it throws, and nothing else is thrown anywhere. */
+  private static void exceptions(String text) {
+    for (Method m : StampViews.class.getDeclaredMethods()) {
+      Class<?>[] thrown = m.getExceptionTypes();
+      if (m.getName().equals("led")) holds("led throws it", thrown.length == 1 && thrown[0] == java.util.NoSuchElementException.class);
+      else holds(m.getName() + " tells of none", thrown.length == 0);
+    }
+    holds("one throw", text.indexOf("throw new NoSuchElementException(") == text.lastIndexOf("throw new "));
+    try {
+      holds("NONE is -1", StampViews.class.getField("NONE").getInt(null) == -1);
+    } catch (ReflectiveOperationException e) {
+      holds("NONE is there", false);
+    }
+  }
+
+  /** Each heading once, ahead of its calls, all of them in the document's order. */
+  private static void headings(String text) {
+    StringBuilder due = new StringBuilder();
+    for (String[] heading : HEADINGS) {
+      due.append("---- ").append(heading[0]).append('\n');
+      for (String name : heading[1].split(" ")) due.append(name).append('\n');
+    }
+    StringBuilder got = new StringBuilder();
+    Matcher m = Pattern.compile("(?m)^    // (---- .*)$|^    public \\w+ (\\w+)\\(").matcher(text);
+    while (m.find()) got.append(m.group(1) != null ? m.group(1) : m.group(2)).append('\n');
+    holds("headings ahead of their calls:\n" + got, got.toString().startsWith(due.toString()));
+    String rest = got.substring(Math.min(due.length(), got.length()));
+    holds("no call behind them", rest.lines().allMatch(line -> line.startsWith("---- ")));
   }
 
   private static void insides() {
