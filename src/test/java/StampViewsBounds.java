@@ -42,6 +42,9 @@ public final class StampViewsBounds {
     drawsAtTheirBounds();
     drawsWrapRound();
     printedOrNot();
+    drawsOneByOne();
+    allByRulesNow();
+    allByMarksNow();
     pressDownToNoInk();
     carveWhatIsSo();
     markWhatIsSo();
@@ -793,6 +796,78 @@ public final class StampViewsBounds {
     Due.refused("no such paper", Due::town, z -> z.printed(3, 0, 0), 1);
     Due.refused("no such paper is told ahead of a number", Due::town, z -> z.printed(-1, -1, 91), 1);
     Due.refused("no such paper is told ahead of no stamp", Due::bare, z -> z.printed(1, 0, 0), 1);
+  }
+
+  private static void drawsOneByOne() {
+    Due.part("terms III, PRESSES by a SEED");
+    // By 0: 74, 5624, 28652 (u, c, r: faint), 51790; 17641 (41: a bird); 12409, 13231, 9344 (t, b, r: yes), 45504;
+    // 4950, 43639, 61686 (s, b, p: yes), 38934.
+    StampViews x = Due.at(Due.TOWN);
+    int[][] counts = {{0, 0, 0}, {0, 0, 1}, {0, 1, 1}, {0, 2, 1}};
+    int[][] latest = {{-2, -2, -2}, {-2, -2, 2}, {-2, -2, 1}, {1, -2, 1}};
+    for (int n = 0; n <= 3; n++) {
+      for (int v = 0; v < 3; v++) Due.fine(n + " presses, verdict " + v, x, x.presses(v, 0, n), counts[n][v]);
+      for (int p = 0; p < 3; p++) Due.fine(n + " presses, paper " + p, x, x.printed(p, 0, n), latest[n][p]);
+      Due.fine("birds in " + n, x, x.birds(0, n), n == 0 ? 0 : 1);
+    }
+    x.carve(3, 0);
+    Due.fine("the second by a rule as it is now", x, x.printed(2, 0, 3), 0);
+    Due.fine("no, yes, faint: one of each", x, x.presses(0, 0, 3) * 100 + x.presses(1, 0, 3) * 10 + x.presses(2, 0, 3), 111);
+    x.mark(0, 0, false);
+    Due.fine("the third by marks as they are now: faint by a kind one", x, x.printed(0, 0, 3), 1);
+    Due.fine("it isn't faint that is printed", x, x.presses(2, 0, 3), 1);
+  }
+
+  private static void allByRulesNow() {
+    Due.part("rules as NOW");
+    StampViews x = Due.at(Due.TOWN);
+    Due.fraction("s can't have printed no on q", x.odds(0, false), x.odds(0, true), 0, 1);
+    Due.fraction("t says yes of r", x.next(2, 0, 1, false), x.next(2, 0, 1, true), 4, 5);
+    x.carve(4, 0);
+    Due.fine("s of seal", x, x.saysOf(0, 4), 0);
+    Due.fine("s of q", x, x.says(0, 1), 0);
+    Due.fine("by the same rule", x, x.byRule(0, 1), 4);
+    Due.fine("no of q, by s and t", x, x.sayers(1, 0), 3);
+    Due.fraction("s can have", x.odds(0, false), x.odds(0, true), 1, 2);
+    Due.fine("the first of both", x, x.likeliest(), 0);
+    Due.fraction("t says yes of r, s doesn't", x.next(2, 0, 1, false), x.next(2, 0, 1, true), 2, 5);
+    Due.fine("nothing for q", x, x.has(0, 1), 0);
+    Due.fraction("no by a", x.sure(0, 0, 1, 0, false), x.sure(0, 0, 1, 0, true), 4, 5);
+    Due.fraction("p alone by a", x.mean(0, 0, false), x.mean(0, 0, true), 32, 1);
+    Due.fine("seal taken off q: faint", x, x.reword(1, 0, 2), 4);
+    Due.fine("widow put on q: yes", x, x.reword(1, 0, 1), 1);
+    x.carve(0, 0);
+    Due.fine("s gives 4 at most", x, x.clerks(), 4);
+    Due.fine("by s", x, x.clerkPicks(), 0);
+    Due.fine("t of s: not widow", x, x.judges(1, 0), 1);
+    x.carve(3, 0);
+    Due.fine("no", x, x.judges(1, 0), 0);
+    Due.fine("s isn't good behind a month: t says no, u is faint", x, x.good(1) & 1, 0);
+    StampViews y = Due.at(Due.TOWN);
+    Due.fine("r by t and the cross hand", y, y.keptBy(2), 12);
+    y.carve(3, 0);
+    Due.fine("r by t and the straight one", y, y.keptBy(2), 10);
+    Due.fine("all three still", y, y.kept(), 3);
+  }
+
+  private static void allByMarksNow() {
+    Due.part("papers as NOW");
+    StampViews x = Due.at(Due.TOWN);
+    x.mark(1, 2, false);
+    x.mark(1, 1, false);
+    Due.fine("s says faint of q", x, x.says(0, 1), 2);
+    Due.fine("t says yes of q", x, x.says(1, 1), 1);
+    Due.fine("by another rule", x, x.byRule(1, 1), 3);
+    Due.fine("faint by s and u", x, x.sayers(1, 2), 5);
+    Due.fraction("no on q can't be now", x.odds(1, false), x.odds(1, true), 0, 1);
+    Due.fine("there is none", x, x.likeliest(), -2);
+    Due.fine("half of q", x, x.has(0, 1), 30);
+    Due.fine("60 by t", x, x.has(1, 1), 60);
+    Due.fraction("40, 60 and 9 by t and b", x.mean(1, 1, false), x.mean(1, 1, true), 109, 1);
+    Due.fine("u gives 30 for q", x, x.clerks(), 30);
+    Due.fine("q by t and a straight hand", x, x.keptBy(1), 10);
+    Due.fine("judged by their own marks, as told", x, x.judges(0, 1), 2);
+    Due.fine("laws: no for q, yes or faint for p", x, x.laws(), 2);
   }
 
   // ---- acts

@@ -1,5 +1,4 @@
 import java.io.IOException;
-import java.io.StringWriter;
 import java.net.URL;
 import java.net.URLClassLoader;
 import java.nio.file.Files;
@@ -8,8 +7,6 @@ import java.util.ArrayList;
 import java.util.List;
 import java.util.regex.Matcher;
 import java.util.regex.Pattern;
-import javax.tools.JavaCompiler;
-import javax.tools.ToolProvider;
 
 /** The Java of README.md, run as it stands: behind each call of x that is followed by a remark stands the answer that is due. */
 public final class StampViewsReadme {
@@ -58,11 +55,12 @@ public final class StampViewsReadme {
     try {
       Path source = folder.resolve("Shown.java");
       Files.writeString(source, program);
-      JavaCompiler compiler = ToolProvider.getSystemJavaCompiler();
-      StringWriter said = new StringWriter();
-      boolean compiled = compiler.getTask(said, null, null, List.of("-cp", System.getProperty("java.class.path"), "-d", folder.toString()),
-          null, compiler.getStandardFileManager(null, null, null).getJavaFileObjects(source)).call();
-      Due.same("what javac says of the page", compiled ? "" : said.toString(), "");
+      // As .ci/run does: javac is asked for by its name, so that nothing but javac and java must be there.
+      Process javac = new ProcessBuilder("javac", "-cp", System.getProperty("java.class.path"), "-d", folder.toString(), source.toString())
+          .redirectErrorStream(true).start();
+      String said = new String(javac.getInputStream().readAllBytes());
+      boolean compiled = javac.waitFor() == 0;
+      Due.same("what javac says of the page", compiled ? "" : "'" + said + "'", "");
       if (!compiled) return new String[0];
       try (URLClassLoader loader = new URLClassLoader(new URL[] {folder.toUri().toURL()})) {
         return (String[]) loader.loadClass("Shown").getMethod("run").invoke(null);
